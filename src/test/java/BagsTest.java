@@ -127,8 +127,7 @@ public final class BagsTest {
         PoplarQueue q = new PoplarQueue();
         q.bag(2, 1);
         long[] numbers = {0, 1, 1000002, 1000003, 1000004, -1, -2, -1000003, -1000004, Long.MAX_VALUE, Long.MIN_VALUE, 1L << 32};
-        int[] want = {0, 1, 1000002, 0, 1, 2000000, 2000001, 3000002, 2000000, 675344, 2675344, 954411};
-        want[11] = (int) ((1L << 32) % 1000003);
+        int[] want = {0, 1, 1000002, 0, 1, 2000000, 2000001, 3000002, 2000000, 675344, 2675344, 954414};
         for (int i = 0; i < numbers.length; i++) {
             q.hold(2, 0, 0, numbers[i]);
             d.due("held of " + numbers[i], q.held(2, 0, 0), want[i]);
