@@ -872,8 +872,8 @@ public final class PoplarQueue {
         }
 
         private boolean wouldPush(int behind, int ahead) {
-            return isTree(behind) && isTree(ahead)
-                && Kinds.pushes(kind[behind]) && Kinds.canBePushed(kind[ahead])
+            return isTree(behind) && Kinds.pushes(kind[behind])
+                && isTree(ahead) && Kinds.canBePushed(kind[ahead])
                 && root[ahead] < root[behind];
         }
 

@@ -9,6 +9,7 @@ public final class ForetoldTest {
         promise19Where();
         promise20Next();
         promise21Best();
+        promise21BestInTheLastNight();
         promise21BestRefused();
         promise22Send();
         promise22SendRefused();
@@ -87,6 +88,12 @@ public final class ForetoldTest {
         }
         d.due("next(9) within 60 nights", far.next(9), 10);
         d.due("next(10) beyond them", far.next(10), PoplarQueue.NONE);
+        for (int i = 0; i < 4; i++) {
+            far.night();
+        }
+        d.due("next(10) in the 61st night", far.next(10), PoplarQueue.NONE);
+        far.night();
+        d.due("next(9) in the 60th night, one having been called", far.next(9), 11);
     }
 
     private static void promise21Best() {
@@ -105,6 +112,17 @@ public final class ForetoldTest {
         PoplarQueue roots = Due.told("poplar 0 50;poplar 1 60;law 2");
         d.due("best by roots", roots.best(0, 70), 1);
         d.due("best by roots of a pusher", roots.best(1, 60), 0);
+    }
+
+    /** Line 0 has its way in each second night, in 29 of which its gaps and farmers go. */
+    private static void promise21BestInTheLastNight() {
+        PoplarQueue q = Due.told("gap 0;gap 0;gap 0;stump 1 0;gap 1");
+        for (int i = 0; i < 9; i++) {
+            q.join(0, 4, 0);
+        }
+        q.night();
+        d.due("best of one called in night 60", q.best(0, 0), 0);
+        d.due("best of one called in night 62", q.best(2, 0), PoplarQueue.NONE);
     }
 
     private static void promise21BestRefused() {
