@@ -30,7 +30,7 @@ public final class PoplarQueue {
     /** The one plain on which all that is only thought of happens, so that no call makes another. */
     private final Plain trial = new Plain();
     private final Text text = new Text();
-    private final Reader reader = new Reader(text, trial);
+    private final Reader reader = new Reader(text, told, trial);
     private final History history = new History();
     private final Plain[] kept = {new Plain(), new Plain()};
     private final boolean[] isKept = new boolean[KEEPS];
@@ -56,11 +56,11 @@ public final class PoplarQueue {
     }
 
     public int fault() {
-        return readText();
+        return reader.readToFault();
     }
 
     public int plain() {
-        if (readText() != NONE) {
+        if (reader.readToFault() != NONE) {
             return NOT;
         }
         told.copyFrom(trial);
@@ -524,12 +524,6 @@ public final class PoplarQueue {
         return kind >= 0 && kind <= LAST_KIND && root >= 0 && root <= MOST_ROOT;
     }
 
-    /** Leaves on the trial plain what the text would tell; the place of its fault, or NONE. */
-    private int readText() {
-        trial.copyFrom(told);
-        return reader.readToFault();
-    }
-
     /** By how many nights of the trial plain, most of them at the most, a tree is called; NONE. */
     private int nightsTillCalled(int tree, int most) {
         for (int night = 1; night <= most; night++) {
@@ -988,25 +982,31 @@ public final class PoplarQueue {
         }
     }
 
-    /** Reads the text token by token and does its clauses on the draft, up to the first fault. */
+    /** Reads the text token by token and does its clauses on a draft of what was told, up to the first fault. */
     private static final class Reader {
         private static final int MOST_CLAUSES = 20;
+        private static final int MOST_DIGITS = 2;
         private static final int END = 0, WORD = 1, NUMBER = 2, SIGN = 3;
 
         private final Text text;
+        private final Plain told;
         private final Plain draft;
         private int start = 0;
         private int end = 0;
         private int sort = END;
+        /** What the token says, if it is a number of few enough digits; else NONE. */
+        private int number = NONE;
         int clauses = 0;
 
-        Reader(Text text, Plain draft) {
+        Reader(Text text, Plain told, Plain draft) {
             this.text = text;
+            this.told = told;
             this.draft = draft;
         }
 
-        /** Where the token that cannot stand begins; NONE, and the clauses are counted. */
+        /** Where the token that cannot stand begins; NONE, and the clauses are counted and done on the draft. */
         int readToFault() {
+            draft.copyFrom(told);
             end = 0;
             clauses = 0;
             for (int clause = 0; clause < MOST_CLAUSES; clause++) {
@@ -1053,7 +1053,7 @@ public final class PoplarQueue {
             if (!isNumberUpTo(LAST_LAW)) {
                 return false;
             }
-            draft.ruling = number();
+            draft.ruling = number;
             step();
             return true;
         }
@@ -1062,7 +1062,7 @@ public final class PoplarQueue {
             if (!isLineWithRoom()) {
                 return false;
             }
-            draft.lineOf(number()).append(Line.FREE_GAP);
+            draft.lineOf(number).append(Line.FREE_GAP);
             step();
             return true;
         }
@@ -1071,18 +1071,18 @@ public final class PoplarQueue {
             if (!isLineWithRoom()) {
                 return false;
             }
-            int line = number();
+            int line = number;
             step();
             if (!isNumberUpTo(MOST_ROOT)) {
                 return false;
             }
-            draft.plant(line, kind, number());
+            draft.plant(line, kind, number);
             step();
             return true;
         }
 
         private boolean isLineWithRoom() {
-            return isNumberUpTo(LINES - 1) && !draft.lineOf(number()).isFull();
+            return isNumberUpTo(LINES - 1) && !draft.lineOf(number).isFull();
         }
 
         /** A text has no word for a farmer. */
@@ -1112,19 +1112,7 @@ public final class PoplarQueue {
         }
 
         private boolean isNumberUpTo(int most) {
-            int number = number();
             return number != NONE && number <= most;
-        }
-
-        private int number() {
-            if (sort != NUMBER || end - start > 2) {
-                return NONE;
-            }
-            int number = 0;
-            for (int i = start; i < end; i++) {
-                number = 10 * number + text.letterAt(i) - '0';
-            }
-            return number;
         }
 
         private void step() {
@@ -1137,6 +1125,15 @@ public final class PoplarQueue {
             while (end < text.length && sort != SIGN && sortAt(end) == sort) {
                 end++;
             }
+            number = sort == NUMBER && end - start <= MOST_DIGITS ? digitsRead() : NONE;
+        }
+
+        private int digitsRead() {
+            int read = 0;
+            for (int place = start; place < end; place++) {
+                read = 10 * read + text.letterAt(place) - '0';
+            }
+            return read;
         }
 
         private int sortAt(int place) {

@@ -36,11 +36,11 @@ public final class AnyCallTest {
             Method call = calls.get(random.nextInt(calls.size()));
             Object[] given = arguments(call, random);
             String name = run + ", call " + i + ": " + call.getName() + " " + List.of(given);
-            String ahead = look(queue);
+            String ahead = Look.atNow(queue);
             try {
                 int answer = (int) call.invoke(queue, given);
                 boolean same = answer < PoplarQueue.NONE || ASKED.contains(call.getName());
-                d.holds(name + " changes nothing", !same || ahead.equals(look(queue)));
+                d.holds(name + " changes nothing", !same || ahead.equals(Look.atNow(queue)));
                 d.holds(name + " answers as told: " + answer, answer >= -15 && (answer >= -5 || answer <= -11));
             } catch (InvocationTargetException e) {
                 d.holds(name + " throws " + e.getCause(), false);
@@ -60,26 +60,5 @@ public final class AnyCallTest {
             }
         }
         return given;
-    }
-
-    /** All that can be looked at without foretelling. */
-    private static String look(PoplarQueue queue) {
-        StringBuilder seen = new StringBuilder(Due.lines(queue));
-        for (int what = 0; what < 12; what++) {
-            seen.append(' ').append(queue.count(what));
-        }
-        for (int tree = 0; tree < queue.count(0); tree++) {
-            for (int what = 0; what < 6; what++) {
-                seen.append(' ').append(queue.tree(tree, what));
-            }
-        }
-        for (int bag = 0; bag < 3; bag++) {
-            for (int slot = 0; slot < 13; slot++) {
-                for (int what = 0; what < 3; what++) {
-                    seen.append(' ').append(queue.held(bag, slot, what));
-                }
-            }
-        }
-        return seen.append(' ').append(queue.fault()).toString();
     }
 }

@@ -264,7 +264,7 @@ public final class DoneTest {
 
     private static void promise15UndoOfEach() {
         PoplarQueue q = Due.told("old 0 1;poplar 1 1;poplar 0 2");
-        String first = Due.lines(q);
+        String first = Look.atLines(q);
         q.night();
         d.due("bid", q.tree(0, 5), 1);
         q.undo();

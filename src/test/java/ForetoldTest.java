@@ -197,7 +197,7 @@ public final class ForetoldTest {
     private static void nothingChanges() {
         PoplarQueue q = Due.told(THREE);
         q.night();
-        String ahead = Due.lines(q);
+        String ahead = Look.atLines(q);
         q.when(0);
         q.where(0, 60);
         q.next(2);
