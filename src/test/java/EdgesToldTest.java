@@ -252,6 +252,16 @@ public final class EdgesToldTest {
             "stumps 0 1", "ga 0", "gaps 0", "la 0", "laws 0", "lawgap 0", "p", "a", "z");
     }
 
+    static void promise04_aWordIsRightInEachOfItsLetters() {
+        for (String clause : new String[] {"plain", "poplar 0 1", "pusher 0 1", "old 0 1", "stump 0 1", "gap 0", "law 0"}) {
+            for (int i = 0; i < clause.length() && clause.charAt(i) != ' '; i++) {
+                StringBuilder other = new StringBuilder(clause);
+                other.setCharAt(i, 'x');
+                faultOf(other.toString(), 0);
+            }
+        }
+    }
+
     static void promise04_wordsHaveSmallLettersAlone() {
         faultsOf(0, "Plain", "PLAIN", "Law 0", "GAP 0");
         faultOf("law 0;Gap 1", 6);
@@ -542,6 +552,15 @@ public final class EdgesToldTest {
         d.due("plain", Due.tell(q, "plain"), 1);
         d.same("all as at first", Look.atCounts(q), "0 0 0 0 0 0 0 0 0 0 0 0");
         d.due("the next tree's number", q.join(1, 0, 0), 0);
+    }
+
+    static void promise05_thePlainClauseMakesTheLawTurns() {
+        d.due("the law behind 'law 2;plain'", Due.told("law 2;plain").count(3), 0);
+        PoplarQueue q = Due.told("law 2");
+        Due.tell(q, "plain");
+        d.due("the law behind 'law 2', then 'plain'", q.count(3), 0);
+        Due.tell(q, "plain;law 1");
+        d.due("the law behind 'plain;law 1'", q.count(3), 1);
     }
 
     static void promise05_rootsAreAsTold() {
