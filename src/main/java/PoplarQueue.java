@@ -25,12 +25,9 @@ public final class PoplarQueue {
     private static final int NOBODY = 99;
 
     private final Plain now = new Plain();
-    /** What texts have told, apart from what was done since: each new text goes on from it. */
-    private final Plain told = new Plain();
-    /** The one plain on which all that is only thought of happens, so that no call makes another. */
+    /** The one plain on which all that is foretold happens, so that no call makes another. */
     private final Plain trial = new Plain();
-    private final Text text = new Text();
-    private final Reader reader = new Reader(text, told, trial);
+    private final Reader reader = new Reader();
     private final History history = new History();
     private final Plain[] kept = {new Plain(), new Plain()};
     private final boolean[] isKept = new boolean[KEEPS];
@@ -46,12 +43,12 @@ public final class PoplarQueue {
         if (letter < 0 || letter > LAST_LETTER) {
             return OUTSIDE;
         }
-        return text.append(letter) ? text.length : FULL;
+        return reader.text.append(letter) ? reader.text.length : FULL;
     }
 
     public int erase() {
-        int had = text.length;
-        text.clear();
+        int had = reader.text.length;
+        reader.text.clear();
         return had;
     }
 
@@ -63,9 +60,8 @@ public final class PoplarQueue {
         if (reader.readToFault() != NONE) {
             return NOT;
         }
-        told.copyFrom(trial);
-        now.copyFrom(told);
-        text.clear();
+        reader.takeDraft();
+        now.copyFrom(reader.told);
         sights.clear();
         history.clear();
         for (int k = 0; k < KEEPS; k++) {
@@ -500,7 +496,7 @@ public final class PoplarQueue {
             case 10:
                 return history.length;
             case 11:
-                return text.length;
+                return reader.text.length;
             default:
                 return OUTSIDE;
         }
@@ -988,21 +984,16 @@ public final class PoplarQueue {
         private static final int MOST_DIGITS = 2;
         private static final int END = 0, WORD = 1, NUMBER = 2, SIGN = 3;
 
-        private final Text text;
-        private final Plain told;
-        private final Plain draft;
+        final Text text = new Text();
+        /** What texts have told, apart from what was done since: each new text goes on from it. */
+        final Plain told = new Plain();
+        private final Plain draft = new Plain();
         private int start = 0;
         private int end = 0;
         private int sort = END;
         /** What the token says, if it is a number of few enough digits; else NONE. */
         private int number = NONE;
         int clauses = 0;
-
-        Reader(Text text, Plain told, Plain draft) {
-            this.text = text;
-            this.told = told;
-            this.draft = draft;
-        }
 
         /** Where the token that cannot stand begins; NONE, and the clauses are counted and done on the draft. */
         int readToFault() {
@@ -1024,6 +1015,12 @@ public final class PoplarQueue {
             }
             // No clause more can come, so the sign that would lead to it cannot stand.
             return start;
+        }
+
+        /** Only behind a text that was read without a fault does the draft stand for what is told. */
+        void takeDraft() {
+            told.copyFrom(draft);
+            text.clear();
         }
 
         /** If it answers false, the token at which it stands is the fault; so do all that it asks. */

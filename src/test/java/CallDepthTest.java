@@ -22,7 +22,8 @@ import javax.tools.ToolProvider;
 
 /**
  * Rules 8, 11 and 12 of LANGUAGE.md, by the calls that the compiler finds in the class: none comes back to
- * itself, none goes deeper than eight, and holders are all that is made behind the constructors.
+ * itself, none goes deeper than eight, holders are all that is made behind the constructors, and what makes
+ * an object calls nothing and hands nothing of it out.
  * Run from the project's folder.
  */
 public final class CallDepthTest {
@@ -85,7 +86,10 @@ public final class CallDepthTest {
 
         @Override
         public Void visitMethodInvocation(MethodInvocationTree call, Element here) {
-            if (here != null) {
+            if (isMaking(here)) {
+                String name = call.getMethodSelect().toString();
+                d.holds("a constructor or a field's first value calls " + name, name.equals("super"));
+            } else {
                 CALLS.get(here).add(trees.getElement(getCurrentPath()));
             }
             return super.visitMethodInvocation(call, here);
@@ -93,10 +97,17 @@ public final class CallDepthTest {
 
         @Override
         public Void visitNewClass(NewClassTree made, Element here) {
-            if (here != null && here.getKind() == ElementKind.METHOD) {
+            if (isMaking(here)) {
+                d.holds("a constructor or a field's first value hands out " + made.getArguments(), made.getArguments().isEmpty());
+            } else {
                 d.holds(here + " makes a " + made.getIdentifier(), made.getIdentifier().toString().equals("Holder"));
             }
             return super.visitNewClass(made, here);
+        }
+
+        /** A field's first value stands in no method at all. */
+        private static boolean isMaking(Element here) {
+            return here == null || here.getKind() == ElementKind.CONSTRUCTOR;
         }
     }
 }
